@@ -226,7 +226,8 @@ public final class GainGraphs {
 
     public long colorings(int colors) throws IllegalArgumentException {
         needColors(colors);
-        return allColorings(colors);
+        sets.tally(now, 0, 0, false);
+        return sets.sumAt(now.colorCount(colors));
     }
 
     public long zeroFree(int colors) throws IllegalArgumentException {
@@ -256,8 +257,9 @@ public final class GainGraphs {
     }
 
     public int leastColors() {
+        sets.tally(now, 0, 0, false);
         for (int colors = 1; colors <= PALETTE_LIMIT; colors++) {
-            if (allColorings(colors) > 0) {
+            if (sets.sumAt(now.colorCount(colors)) > 0) {
                 return colors;
             }
         }
@@ -511,11 +513,6 @@ public final class GainGraphs {
     private void remember() {
         history.keep(now);
         sets.forget();
-    }
-
-    private long allColorings(int colors) {
-        sets.tally(now, 0, 0, false);
-        return sets.sumAt(now.colorCount(colors));
     }
 
     private boolean isSwitchedForm(Graph other) {
@@ -973,7 +970,7 @@ public final class GainGraphs {
             Parts next = sets.levels[arc + 1];
             next.copyFrom(here);
             spread(sets, graph, arc + 1, set);
-            next.copyFrom(here);
+            // The levels below have changed only what lies below them.
             next.add(graph, arc);
             spread(sets, graph, arc + 1, set | 1 << arc);
         }
@@ -1318,7 +1315,6 @@ public final class GainGraphs {
             at = 0;
             statement = 0;
             error = 0;
-            errorAt = 0;
             if (!readGraph(into)) {
                 return false;
             }

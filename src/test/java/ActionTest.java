@@ -10,6 +10,7 @@ public final class ActionTest {
         switches();
         contractions();
         contractionsBehind();
+        atTheLimits();
         marks();
         badNumbers();
         surveyIsForgotten();
@@ -188,6 +189,36 @@ public final class ActionTest {
         w.contract(1);
         arcIs(w, 0, 0, 0, 0, 1, 0);
         arcIs(w, 1, 0, 0, 0, 1, 0);
+    }
+
+    /** Twelve arcs and eight vertices, and what an arc that went has left behind. */
+    private static void atTheLimits() {
+        GainGraphs x = Check.of("graph 8 12;arc 0 1 1;arc 1 2 2;arc 2 3 3;arc 3 4 4;arc 4 5 5;arc 5 6 6;arc 6 7 7;arc 7 0 8;"
+                + "arc 0 4 9;arc 4 0 10;arc 7 7 11;arc 0 7 0 12;mark 0 10 11");
+        CHECK.due("56: switchAt(0, 11) of five arcs", 5, () -> x.switchAt(0, 11));
+        CHECK.due("44: finish", 8, x::finish);
+        CHECK.due("55: turnArc(11)", 11, () -> x.turnArc(11));
+        CHECK.due("57: contract(11)", 7, () -> x.contract(11));
+        CHECK.due("57: arcs", 11, () -> x.count(2));
+        CHECK.due("57: marks", 1025, x::marked);
+        x.undo();
+        CHECK.due("57: contract(0)", 7, () -> x.contract(0));
+        CHECK.due("57: marks", 1536, x::marked);
+        x.undo();
+        CHECK.due("52: dropArc(11)", 11, () -> x.dropArc(11));
+        CHECK.due("52: dropArc(0)", 10, () -> x.dropArc(0));
+        CHECK.due("52: marks", 512, x::marked);
+        CHECK.due("56: switchAt(1, 1)", 1, () -> x.switchAt(1, 1));
+        CHECK.due("56: switchAt(0, 1)", 3, () -> x.switchAt(0, 1));
+        for (int left = 9; left >= 0; left--) {
+            int due = left;
+            CHECK.due("52: dropArc(" + left + ")", due, () -> x.dropArc(due));
+            CHECK.due("56: no arc that went counts", 0, () -> due == 0 ? x.switchAt(0, 1) : 0);
+        }
+        GainGraphs y = Check.of("graph 3 2;arc 0 1 1");
+        CHECK.due("44: finish", 3, y::finish);
+        y.addVertex();
+        CHECK.due("51: finish has not painted ahead", -1, () -> y.painted(3));
     }
 
     private static void marks() {

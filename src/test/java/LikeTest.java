@@ -67,6 +67,9 @@ public final class LikeTest {
         x.turnArc(1);
         like(x, 0, false, "a turned arc");
         x.undo();
+        x.turnArc(0);
+        like(x, 0, false, "another arc turned");
+        x.undo();
         x.dropArc(1);
         like(x, 0, false, "an arc less");
         x.undo();
@@ -80,6 +83,10 @@ public final class LikeTest {
         like(x, 0, false, "another FROM");
         Check.load(x, "graph 3 4;arc 0 1 1;arc 1 0 1");
         like(x, 0, false, "another TO");
+        Check.load(x, "graph 3 4;arc 2 1 1;arc 1 2 1");
+        like(x, 0, false, "another FROM of the first");
+        Check.load(x, "graph 3 4;arc 0 2 1;arc 1 2 1");
+        like(x, 0, false, "another TO of the first");
         Check.load(x, "graph 3 4;arc 0 1 0;arc 1 2 2");
         like(x, 0, true, "other gains of a tree");
         Check.load(x, "graph 3 4");

@@ -167,6 +167,7 @@ public final class RankTest {
         CHECK.due("26: a balanced loop never comes", 16 + 8 + 128 + 1, mixed::leastBasis);
         mixed.setWeight(7, 99);
         CHECK.due("26: weight 99 comes too", 16 + 8 + 1 + 2, mixed::leastBasis);
+        CHECK.due("26: the heaviest of all", 3, () -> Check.of("graph 2 2;arc 0 1 0 99;arc 1 1 1 99").leastBasis());
         weight(mixed, 0, 0);
         weight(mixed, 64, 99);
         weight(mixed, 65, 106);

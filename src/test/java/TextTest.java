@@ -10,6 +10,8 @@ public final class TextTest {
         misplaced();
         outOfRange();
         tooManyArcs();
+        fullBuffer();
+        formerText();
         looks();
         CHECK.finish();
     }
@@ -120,6 +122,7 @@ public final class TextTest {
         fails(x, "arc 0 1 0", 0, 1, 0);
         fails(x, "mark 0", 0, 1, 0);
         fails(x, "graphs 2 2", 0, 1, 0);
+        fails(x, "graphz 2 2", 0, 1, 0);
         fails(x, "grap 2 2", 0, 1, 0);
         fails(x, "Graph 2 2", 0, 1, 0);
         fails(x, "graph", 5, 1, 0);
@@ -190,6 +193,46 @@ public final class TextTest {
         fails(x, twelve + ";arcs", 130, 1, 13);
         fails(x, twelve + ";mark 12", 135, 2, 13);
         CHECK.due("3: the former graph stays", 12, () -> x.count(2));
+    }
+
+    /** 400 bytes whose last one is of each kind: nothing behind the buffer is looked at. */
+    private static void fullBuffer() {
+        GainGraphs x = new GainGraphs();
+        String start = "graph 2 2;arc 0 0 1;";
+        String spaces = " ".repeat(400 - start.length());
+        fails(x, start + spaces, 400, 1, 2);
+        fails(x, start + spaces.substring(4) + "mark", 400, 1, 2);
+        fails(x, start + spaces.substring(7) + "marking", 393, 1, 2);
+        fails(x, start + spaces.substring(8) + "arc 1 1 ", 400, 1, 2);
+        fails(x, start + spaces.substring(7) + "mark 0;", 400, 1, 3);
+        fails(x, start + spaces.substring(7) + "mark 0,", 399, 1, 2);
+        fails(x, start + spaces.substring(6) + "mark 1", 399, 2, 2);
+        reads(x, start + spaces.substring(6) + "mark 0", 1);
+        fails(x, start + spaces.substring(7) + "arc 1 1", 400, 1, 2);
+        reads(x, start + spaces.substring(9) + "arc 1 1 0", 2);
+        reads(x, start + spaces.substring(11) + "arc 1 1 0 9", 2);
+        reads(x, start + "mark 0" + spaces.substring(6), 1);
+        reads(x, "graph 2 " + "0".repeat(391) + "2", 0);
+        fails(x, "g".repeat(400), 0, 1, 0);
+        fails(x, "graph " + "9".repeat(394), 6, 2, 0);
+        reads(x, start + "mark" + " 0".repeat(188), 1);
+    }
+
+    /** What an earlier, longer text has left in the buffer does not count. */
+    private static void formerText() {
+        GainGraphs x = new GainGraphs();
+        fails(x, "graphs 2 2", 0, 1, 0);
+        fails(x, "graph", 5, 1, 0);
+        reads(x, "graph 2 2;arc 0 0 0", 1);
+        fails(x, "graph 2 2;", 10, 1, 1);
+        reads(x, "graph 2 2;arc 0 0 0 77;mark 0", 1);
+        reads(x, "graph 2 2;arc 0 0 0 7", 1);
+        arcIs(x, 0, 0, 0, 0, 7, 0);
+        reads(x, "graph 2 2;arc 0 0 0", 1);
+        arcIs(x, 0, 0, 0, 0, 1, 0);
+        reads(x, "graph 2 12", 0);
+        reads(x, "graph 2 1", 0);
+        CHECK.due("3: M", 1, () -> x.count(1));
     }
 
     private static void looks() {
