@@ -3,21 +3,26 @@ import com.sun.source.tree.BinaryTree;
 import com.sun.source.tree.ClassTree;
 import com.sun.source.tree.CompilationUnitTree;
 import com.sun.source.tree.CompoundAssignmentTree;
+import com.sun.source.tree.DoWhileLoopTree;
+import com.sun.source.tree.ForLoopTree;
 import com.sun.source.tree.ImportTree;
 import com.sun.source.tree.LambdaExpressionTree;
 import com.sun.source.tree.MemberReferenceTree;
 import com.sun.source.tree.MethodInvocationTree;
 import com.sun.source.tree.MethodTree;
+import com.sun.source.tree.NewArrayTree;
 import com.sun.source.tree.NewClassTree;
 import com.sun.source.tree.SynchronizedTree;
 import com.sun.source.tree.ThrowTree;
 import com.sun.source.tree.Tree;
 import com.sun.source.tree.TryTree;
 import com.sun.source.tree.VariableTree;
+import com.sun.source.tree.WhileLoopTree;
 import com.sun.source.util.JavacTask;
 import com.sun.source.util.TreePath;
 import com.sun.source.util.TreePathScanner;
 import com.sun.source.util.Trees;
+import java.nio.file.Files;
 import java.nio.file.Path;
 import java.util.ArrayDeque;
 import java.util.Deque;
@@ -42,6 +47,9 @@ public final class LanguageTest extends TreePathScanner<Void, Void> {
     private static final Set<String> LIBRARY = Set.of("java.lang.Integer.bitCount", "java.lang.Long.bitCount", "java.lang.Math.min",
             "java.lang.Math.max", "java.lang.System.arraycopy", "java.lang.String.length", "java.lang.String.charAt",
             "java.lang.Object.<init>");
+    /** Rule 3, as far as the class uses it. */
+    private static final String TYPES = "(int|long|byte|boolean)(\\[\\])?|java\\.lang\\.String|GainGraphs\\.\\w+(\\[\\])?";
+    private static final Path SOURCE = Path.of("src", "main", "java", "GainGraphs.java");
     private static final Set<String> THROWN = Set.of("java.lang.IllegalArgumentException", "java.lang.IndexOutOfBoundsException");
 
     private final Check check = new Check();
@@ -62,11 +70,12 @@ public final class LanguageTest extends TreePathScanner<Void, Void> {
         JavaCompiler compiler = ToolProvider.getSystemJavaCompiler();
         StandardJavaFileManager files = compiler.getStandardFileManager(null, null, null);
         JavacTask task = (JavacTask) compiler.getTask(null, files, null, List.of("-proc:none"), null,
-                files.getJavaFileObjects(Path.of("src", "main", "java", "GainGraphs.java")));
+                files.getJavaFileObjects(SOURCE));
         CompilationUnitTree unit = task.parse().iterator().next();
         task.analyze();
         LanguageTest test = new LanguageTest(Trees.instance(task), unit);
         test.scan(unit, null);
+        test.signs(Files.readAllBytes(SOURCE));
         test.end();
     }
 
@@ -77,6 +86,8 @@ public final class LanguageTest extends TreePathScanner<Void, Void> {
             no(publicNames.contains(name), "rule 1: a private method with the public name " + name);
         }
         for (Element method : calls.keySet()) {
+            boolean isPlain = method.getModifiers().containsAll(Set.of(Modifier.PRIVATE, Modifier.STATIC));
+            no(!isPlain && comesBack(method, method, new HashSet<>()), "rule 8: recursion of " + method);
             int depth = depth(method, new HashSet<>());
             no(depth > DEEPEST_CALLS, "rule 11: calls " + depth + " deep from " + method);
         }
@@ -94,6 +105,23 @@ public final class LanguageTest extends TreePathScanner<Void, Void> {
         }
         open.remove(method);
         return deepest + 1;
+    }
+
+    private boolean comesBack(Element start, Element method, Set<Element> seen) {
+        for (Element called : calls.getOrDefault(method, Set.of())) {
+            if (called.equals(start) || seen.add(called) && comesBack(start, called, seen)) {
+                return true;
+            }
+        }
+        return false;
+    }
+
+    private void signs(byte[] text) {
+        int strange = 0;
+        for (byte sign : text) {
+            strange += sign < ' ' && sign != '\n' ? 1 : 0;
+        }
+        no(strange > 0, "rule 4: " + strange + " signs that are no plain ones");
     }
 
     private void no(boolean isWrong, String fault) {
@@ -160,8 +188,45 @@ public final class LanguageTest extends TreePathScanner<Void, Void> {
         boolean isThrown = getCurrentPath().getParentPath().getLeaf() instanceof ThrowTree;
         if (!isThrown) {
             called(tree, trees.getElement(getCurrentPath()));
+            made(tree);
         }
         return super.visitNewClass(tree, nothing);
+    }
+
+    @Override
+    public Void visitNewArray(NewArrayTree tree, Void nothing) {
+        made(tree);
+        return super.visitNewArray(tree, nothing);
+    }
+
+    /** The room of a run is kept by making objects and arrays with a new GainGraphs only, never in a call. */
+    private void made(Tree tree) {
+        no(!methods.isEmpty() && methods.peek().getKind() != ElementKind.CONSTRUCTOR, "rule 12: made in a call, " + place(tree));
+    }
+
+    @Override
+    public Void visitVariable(VariableTree tree, Void nothing) {
+        String type = trees.getTypeMirror(getCurrentPath()).toString();
+        no(!type.matches(TYPES), "rule 3: " + type + ", " + place(tree));
+        return super.visitVariable(tree, nothing);
+    }
+
+    @Override
+    public Void visitForLoop(ForLoopTree tree, Void nothing) {
+        no(tree.getCondition() == null, "rule 9: a loop without an end, " + place(tree));
+        return super.visitForLoop(tree, nothing);
+    }
+
+    @Override
+    public Void visitWhileLoop(WhileLoopTree tree, Void nothing) {
+        no(!tree.getCondition().toString().contains("<"), "rule 9: a loop without a counter, " + place(tree));
+        return super.visitWhileLoop(tree, nothing);
+    }
+
+    @Override
+    public Void visitDoWhileLoop(DoWhileLoopTree tree, Void nothing) {
+        no(!tree.getCondition().toString().contains("<"), "rule 9: a loop without a counter, " + place(tree));
+        return super.visitDoWhileLoop(tree, nothing);
     }
 
     private void called(Tree tree, Element method) {
